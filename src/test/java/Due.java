@@ -15,10 +15,6 @@ final class Due {
         }
     }
 
-    void holds(String what, boolean so) {
-        is(what, so ? 1 : 0, 1);
-    }
-
     boolean allRight() {
         return wrong == 0;
     }

@@ -12,6 +12,7 @@ public final class ModelTest {
     private final PlainModel m = new PlainModel();
     /** How often a number is drawn that may not be, in a hundred. */
     private final int wild;
+    /** How often counts are spoiled or mended, and a tear is set, in a hundred deeds. */
     private final int spoils;
     private final int tears;
 
@@ -21,7 +22,7 @@ public final class ModelTest {
         run = "run " + seed;
         wild = seed % 4 == 0 ? 10 : 1;
         spoils = seed % 3 == 0 ? 30 : 2;
-        tears = seed % 5 == 0 ? 0 : 100;
+        tears = seed % 5 == 0 ? 0 : 25;
     }
 
     public static void main(String[] args) {
@@ -33,8 +34,8 @@ public final class ModelTest {
     }
 
     private void go() {
-        for (int i = draw.nextInt(7); i >= 0; i--) {
-            int backing = draw.nextInt(i + 2) - 1;
+        for (int i = draw.nextInt(6); i >= 0; i--) {
+            int backing = draw.nextInt(m.count(0) + 1) - 1;
             same("layer(" + backing + ")", x.layer(backing), m.layer(backing));
         }
         if (draw.nextInt(3) == 0) {
@@ -92,7 +93,7 @@ public final class ModelTest {
     }
 
     private void deed() {
-        if (draw.nextInt(1000) < tears) {
+        if (draw.nextInt(100) < tears) {
             int n = draw.nextInt(5) == 0 ? drawn(1000) : draw.nextInt(16) - 1;
             same("tear(" + n + ")", x.tear(n), m.tear(n));
         }
