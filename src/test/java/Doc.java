@@ -14,6 +14,10 @@ final class Doc {
     private static final String BOUND_OF_CALLS =
             "An object is used for at most 512 calls after it has been made; what later calls answer is free.";
 
+    /** Headings of the face that promise nothing of their own. */
+    private static final String HEADING = "Ahead of the calls [^-]* the interface says: ----"
+            + " (layers, places|counts|who holds what|texts|all of it)?\\.?";
+
     private final String[] texts = new String[PROMISES + 1];
     private final boolean[][] named = new boolean[PROMISES + 1][];
 
@@ -72,9 +76,7 @@ final class Doc {
     }
 
     private static void addStretch(List<String> left, int promise, StringBuilder stretch) {
-        String words = stretch.toString().replaceAll(
-                "Ahead of the calls [^-]* the interface says: ---- (layers, places|counts|who holds what|texts|all of it)?\\.?",
-                "");
+        String words = stretch.toString().replaceAll(HEADING, "");
         if (words.chars().anyMatch(Character::isLetter)) {
             left.add((promise == 0 ? "Terms" : "promise " + promise) + ": " + words.trim());
         }

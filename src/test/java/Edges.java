@@ -18,6 +18,10 @@ abstract class Edges {
         long on(TornLayers x);
     }
 
+    interface CallWith {
+        int on(TornLayers x, int number);
+    }
+
     private final Doc doc;
     private final Due due;
     private String sentence = "";
@@ -55,9 +59,8 @@ abstract class Edges {
             called = make.get();
             other = make.get();
             call.on(called);
-            List<Long> got = look(called, part);
-            List<Long> want1 = look(other, part);
-            is(what + ": nothing changes, part " + part, got.equals(want1) ? 1 : 0, 1);
+            boolean alike = look(called, part).equals(look(other, part));
+            is(what + ": nothing changes, part " + part, alike ? 1 : 0, 1);
         }
     }
 
@@ -107,10 +110,9 @@ abstract class Edges {
     }
 
     /** For each of the bad numbers: refused as BAD, and nothing changes. */
-    final void bad(String what, Supplier<TornLayers> make, java.util.function.BiFunction<TornLayers, Integer, Integer> call,
-            int... numbers) {
+    final void bad(String what, Supplier<TornLayers> make, CallWith call, int... numbers) {
         for (int number : numbers) {
-            leaves(what + " " + number, make, x -> call.apply(x, number), BAD);
+            leaves(what + " " + number, make, x -> call.on(x, number), BAD);
         }
     }
 

@@ -92,7 +92,8 @@ final class EdgesOfCounts extends Edges {
         leaves("neither, once", Edges::one, x -> x.spoil(0, 100), BAD);
     }
 
-    private static final String SETS = "CLUSTERS with a LEAK (what 0), a LACK (1), free ones (2), DATA that more than one CELL names (3), as a set (bit c for CLUSTER c);";
+    private static final String SETS = "CLUSTERS with a LEAK (what 0), a LACK (1), free ones (2), DATA that"
+            + " more than one CELL names (3), as a set (bit c for CLUSTER c);";
 
     private void leaks() {
         says(19, SETS);
@@ -331,7 +332,8 @@ final class EdgesOfCounts extends Edges {
         leaves("the first", Edges::one, x -> x.holders(1), 1);
     }
 
-    private static final String BEST = "The SNAPSHOT by whose DROP most CLUSTERS come free (COUNT 0 then, not now), of several the least: what 0 which, 1 how many; NONE: none is there, or DEEDS are refused.";
+    private static final String BEST = "The SNAPSHOT by whose DROP most CLUSTERS come free (COUNT 0 then, not"
+            + " now), of several the least: what 0 which, 1 how many; NONE: none is there, or DEEDS are refused.";
 
     private void best() {
         says(24, BEST);

@@ -81,8 +81,10 @@ final class EdgesOfPlaces extends Edges {
         is("a sixth isn't", layers(-1, -1, -1, -1, -1).layer(-1), 5);
     }
 
-    private static final String OF = "Of a LAYER: 0 BACKING, 1 OWN BLOCKS (a set), 2 how many WRITES it would take to write all PLACES of it"
-            + " (once each, in order, by what they are; NONE: there is no room, or DEEDS are refused), 3 how many LAYERS are below it.";
+    private static final String OF = "Of a LAYER: 0 BACKING, 1 OWN BLOCKS (a set), 2 how many WRITES it would"
+            + " take to write all PLACES of it"
+            + " (once each, in order, by what they are; NONE: there is no room, or DEEDS are refused), 3 how"
+            + " many LAYERS are below it.";
 
     private void ofBackings() {
         says(3, OF);

@@ -46,7 +46,8 @@ final class EdgesOfTerms extends Edges {
 
     private void refusals() {
         says(0, "REFUSALS are answers below -1000: BAD -1001 (a number that may not be, nothing of that number),"
-                + " FULL -1002, STATE -1003, ROUND -1004, TORN -1005 (no REFUSAL of its own: it isn't counted as one).");
+                + " FULL -1002, STATE -1003, ROUND -1004, TORN -1005 (no REFUSAL of its own: it isn't counted"
+                + " as one).");
         TornLayers x = layers(-1, -1, -1, -1, -1);
         is("a number that may not be", x.read(0, 64), -1001);
         is("nothing of that number", x.read(5, 0), -1001);
@@ -91,7 +92,8 @@ final class EdgesOfTerms extends Edges {
     }
 
     private void badAheadOfAll() {
-        says(0, "An act tells the first that its words name, in their order; it changes nothing then but what refused() tells");
+        says(0, "An act tells the first that its words name, in their order; it changes nothing then but what"
+                + " refused() tells");
         leaves("layer, ahead of FULL", EdgesOfTerms::crowdedAndLacking, x -> x.layer(6), BAD);
         leaves("write", EdgesOfTerms::crowdedAndLacking, x -> x.write(0, 64, 0), BAD);
         leaves("snap", EdgesOfTerms::crowdedAndLacking, x -> x.snap(6), BAD);
@@ -111,7 +113,8 @@ final class EdgesOfTerms extends Edges {
     }
 
     private void stateAheadOfFull() {
-        says(0, "An act tells the first that its words name, in their order; it changes nothing then but what refused() tells");
+        says(0, "An act tells the first that its words name, in their order; it changes nothing then but what"
+                + " refused() tells");
         leaves("write", EdgesOfTerms::crowdedAndLacking, x -> x.write(0, 4, 0), STATE);
         leaves("write, but for that", EdgesOfTerms::crowded, x -> x.write(0, 4, 0), FULL);
         leaves("giveUp", EdgesOfTerms::crowdedAndLacking, x -> x.giveUp(0, 0), STATE);
@@ -185,7 +188,8 @@ final class EdgesOfTerms extends Edges {
     }
 
     private void clusters() {
-        says(0, "1. CLUSTERS 1 to 63, each with 4 CELLS (0 to 255; 0 at first) and a COUNT (0 at first; 0: it is free).");
+        says(0, "1. CLUSTERS 1 to 63, each with 4 CELLS (0 to 255; 0 at first) and a COUNT (0 at first; 0: it"
+                + " is free).");
         TornLayers x = layers(-1);
         for (int c = 1; c < 64; c++) {
             for (int what = 0; what <= 5; what++) {
@@ -363,7 +367,8 @@ final class EdgesOfTerms extends Edges {
     }
 
     private void ownBlocks() {
-        says(0, "where both aren't 0, the BLOCK is OWN, its PLACES are the CELLS of that DATA; else they are what they are in the BACKING (NONE: 0).");
+        says(0, "where both aren't 0, the BLOCK is OWN, its PLACES are the CELLS of that DATA; else they are"
+                + " what they are in the BACKING (NONE: 0).");
         TornLayers x = layers(-1, 0);
         is("NONE, no TABLE", x.read(0, 0), 0);
         x.write(0, 0, 7);
@@ -413,7 +418,8 @@ final class EdgesOfTerms extends Edges {
     }
 
     private void trueCounts() {
-        says(0, "2. TRUE COUNT of a CLUSTER: how many numbers in DIRECTORIES (of LAYERS, SNAPSHOTS that are there) name it, and how many CELLS of TABLES that such name (each TABLE once).");
+        says(0, "2. TRUE COUNT of a CLUSTER: how many numbers in DIRECTORIES (of LAYERS, SNAPSHOTS that are"
+                + " there) name it, and how many CELLS of TABLES that such name (each TABLE once).");
         TornLayers x = one();
         for (int s = 0; s < 8; s++) {
             is("a LAYER and SNAPSHOTS " + s, x.cluster(1, 1), 1 + s);
@@ -515,7 +521,8 @@ final class EdgesOfTerms extends Edges {
     }
 
     private void whatIsHeld() {
-        says(0, "HOLDS of a LAYER, of a SNAPSHOT: CLUSTERS that its DIRECTORY names, and those that CELLS of these name.");
+        says(0, "HOLDS of a LAYER, of a SNAPSHOT: CLUSTERS that its DIRECTORY names, and those that CELLS of"
+                + " these name.");
         TornLayers x = layers(-1, 0);
         is("nothing", x.holds(0), 0);
         x.write(0, 0, 1);
@@ -531,7 +538,8 @@ final class EdgesOfTerms extends Edges {
     }
 
     private void full() {
-        says(0, "FULL: a DEED would need a new CLUSTER as none is free (it is asked ahead: it is gone through in thought, the TEAR aside).");
+        says(0, "FULL: a DEED would need a new CLUSTER as none is free (it is asked ahead: it is gone through"
+                + " in thought, the TEAR aside).");
         for (int behind = -1; behind <= 3; behind++) {
             int n = behind;
             leaves("two needed, one free", () -> torn(with(layers(-1), 1), n), x -> x.write(0, 0, 1), FULL);

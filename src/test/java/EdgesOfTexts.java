@@ -41,7 +41,8 @@ final class EdgesOfTexts extends Edges {
         return x;
     }
 
-    private static final String FEED = "The n lowest bytes (1 to 8) of a number, the lowest first, come behind THE TAPE: how many it has.";
+    private static final String FEED = "The n lowest bytes (1 to 8) of a number, the lowest first, come behind"
+            + " THE TAPE: how many it has.";
 
     private void feed() {
         says(31, FEED);
@@ -118,7 +119,8 @@ final class EdgesOfTexts extends Edges {
         is("one SNAPSHOT", y.count(1), 1);
     }
 
-    private static final String TELLS = "THE TAPE, which is empty then, tells DEEDS, parted by ; : a letter and numbers (1 to 3 digits), each with a blank ahead:"
+    private static final String TELLS = "THE TAPE, which is empty then, tells DEEDS, parted by ; : a letter and"
+            + " numbers (1 to 3 digits), each with a blank ahead:"
             + " w L P V (write), s L (snap), d S (drop), r S (revert), g L B (giveUp), m L (merge), f (fold).";
 
     private void runLetters() {
@@ -238,14 +240,17 @@ final class EdgesOfTexts extends Edges {
         is("a LACK", told(lacking(one()), "f;f"), -300);
     }
 
-    private static final String FAULT = "-10 less the FAULT (none is done): the place of the first byte with which no such text goes on; how many there are, if it ends too early.";
+    private static final String FAULT = "-10 less the FAULT (none is done): the place of the first byte with"
+            + " which no such text goes on; how many there are, if it ends too early.";
 
     private void runFaults() {
         says(33, FAULT);
-        String[] texts = {"q", ";", " f", "F", "ff", "f f", "f;;f", "f;q", "s;", "s0", "s  0", "s x", "s 0x", "s 0000", "s 0 0",
-            "w 0 0;", "w 0 0 0 0", "g 0;", "g 0 0 0", "m 0,f", "w 0 0 1;s 0;d 0;z", "f;s 0;w 0 0 -1"};
-        int[] places = {0, 0, 0, 0, 1, 1, 2, 2, 1, 1, 2, 2, 3, 5, 3,
-            5, 7, 3, 5, 3, 16, 12};
+        String[] texts = {"q", ";", " f", "F", "ff", "f f", "f;;f", "f;q", "s;", "s0", "s  0", "s x", "s 0x",
+            "s 0000", "s 0 0", "w 0 0;", "w 0 0 0 0", "g 0;", "g 0 0 0", "m 0,f", "w 0 0 1;s 0;d 0;z",
+            "f;s 0;w 0 0 -1"};
+        int[] places = {0, 0, 0, 0, 1, 1, 2, 2, 1, 1, 2, 2, 3,
+            5, 3, 5, 7, 3, 5, 3, 16,
+            12};
         for (int i = 0; i < texts.length; i++) {
             TornLayers x = torn(layers(-1), 1);
             is(texts[i], told(x, texts[i]), -10 - places[i]);
@@ -260,7 +265,8 @@ final class EdgesOfTexts extends Edges {
 
     private void runEndsEarly() {
         says(33, FAULT);
-        String[] texts = {"", "f;", "s", "s ", "w", "w ", "w 0", "w 0 ", "w 0 0", "w 0 0 ", "w 0 0 0;", "g", "g 0", "g 0 ", "d", "r ", "m", "f;s"};
+        String[] texts = {"", "f;", "s", "s ", "w", "w ", "w 0", "w 0 ", "w 0 0", "w 0 0 ", "w 0 0 0;", "g",
+            "g 0", "g 0 ", "d", "r ", "m", "f;s"};
         for (String text : texts) {
             TornLayers x = layers(-1);
             is("'" + text + "'", told(x, text), -10 - text.length());
@@ -343,7 +349,8 @@ final class EdgesOfTexts extends Edges {
         return x;
     }
 
-    private static final String KEEP = "All is kept but THE TAPE, REFUSALS, how many WRITES were done ever: how many CLUSTERS are free.";
+    private static final String KEEP = "All is kept but THE TAPE, REFUSALS, how many WRITES were done ever: how"
+            + " many CLUSTERS are free.";
 
     private void keep() {
         says(34, KEEP);
@@ -462,7 +469,8 @@ final class EdgesOfTexts extends Edges {
     }
 
     private void count() {
-        says(36, "0 LAYERS, 1 SNAPSHOTS (a set), 2 free CLUSTERS, 3 the TEAR (NONE), 4 bytes of THE TAPE, 5 how many WRITES were done ever in deed (TORN ones, too).");
+        says(36, "0 LAYERS, 1 SNAPSHOTS (a set), 2 free CLUSTERS, 3 the TEAR (NONE), 4 bytes of THE TAPE, 5 how"
+                + " many WRITES were done ever in deed (TORN ones, too).");
         int[] least = {0, 0, 63, -1, 0, 0};
         for (int what = 0; what <= 5; what++) {
             is("at first, " + what, new TornLayers().count(what), least[what]);

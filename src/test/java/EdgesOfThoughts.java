@@ -68,7 +68,8 @@ final class EdgesOfThoughts extends Edges {
         is("the TEAR aside", y.cost(0, 4), 4);
     }
 
-    private static final String TORN_SO = "What the PLACE would be, write() being TORN behind n WRITES (0 to 99; done, if it has no more), REPAIRED then.";
+    private static final String TORN_SO = "What the PLACE would be, write() being TORN behind n WRITES (0 to"
+            + " 99; done, if it has no more), REPAIRED then.";
 
     private void torn() {
         says(27, TORN_SO);
@@ -98,7 +99,8 @@ final class EdgesOfThoughts extends Edges {
         leaves("no n, ahead of FULL", () -> with(one(), 0), x -> x.torn(0, 4, 9, -1), BAD);
     }
 
-    private static final String LEAKS = "How many CLUSTERS would have a LEAK, write() (of any v) being TORN so, not REPAIRED.";
+    private static final String LEAKS = "How many CLUSTERS would have a LEAK, write() (of any v) being TORN so,"
+            + " not REPAIRED.";
 
     private void leaks() {
         says(28, LEAKS);
@@ -137,7 +139,8 @@ final class EdgesOfThoughts extends Edges {
         is("a LEAK of one stays one: it is named no more", y.leaks(0, 0, 99), 1);
     }
 
-    private static final String BEHIND = "The least n so that write() of v, TORN so, reads as v (v isn't what it is now), NONE: it is v now.";
+    private static final String BEHIND = "The least n so that write() of v, TORN so, reads as v (v isn't what"
+            + " it is now), NONE: it is v now.";
 
     private void behind() {
         says(29, BEHIND);
@@ -179,7 +182,8 @@ final class EdgesOfThoughts extends Edges {
         leaves("the greatest v", Edges::one, x -> x.behind(0, 0, 255), 1);
     }
 
-    private static final String ROOM = "How many PLACES, written one behind the other from PLACE 0 of a LAYER on with what they are, have room.";
+    private static final String ROOM = "How many PLACES, written one behind the other from PLACE 0 of a LAYER"
+            + " on with what they are, have room.";
 
     private void room() {
         says(30, ROOM);

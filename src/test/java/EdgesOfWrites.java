@@ -34,7 +34,8 @@ final class EdgesOfWrites extends Edges {
         tearLeftByRefused();
     }
 
-    private static final String WRITES = "DEEDS are made of WRITES, one by one, as told here in brackets: [COUNT c], [CELLS c]"
+    private static final String WRITES = "DEEDS are made of WRITES, one by one, as told here in brackets:"
+            + " [COUNT c], [CELLS c]"
             + " (all four of a CLUSTER at once), [CELL c], [DIRECTORY d: one number], [DIRECTORY d: all], [RECORD s]"
             + " (a SNAPSHOT is there, with its LAYER and DIRECTORY, or no more), [BACKING l].";
 
@@ -132,7 +133,8 @@ final class EdgesOfWrites extends Edges {
     }
 
     private void noTableThere() {
-        says(0, "TO OWN THE TABLE of BLOCK b in a DIRECTORY: none there: a new CLUSTER n: [COUNT n] 1, [CELLS n] all 0, [DIRECTORY] n.");
+        says(0, "TO OWN THE TABLE of BLOCK b in a DIRECTORY: none there: a new CLUSTER n: [COUNT n] 1, [CELLS"
+                + " n] all 0, [DIRECTORY] n.");
         for (int n = 0; n <= 3; n++) {
             TornLayers x = cells(1);
             x.write(0, 3, 7);
@@ -148,8 +150,10 @@ final class EdgesOfWrites extends Edges {
         }
     }
 
-    private static final String SHARED = "One with COUNT above 1 (o): a new CLUSTER n: [COUNT n] 1, [CELLS n] as those of o,"
-            + " for each CELL of it that isn't 0, one by one: [COUNT of that] 1 more; [DIRECTORY] n; [COUNT o] 1 less.";
+    private static final String SHARED = "One with COUNT above 1 (o): a new CLUSTER n: [COUNT n] 1, [CELLS n]"
+            + " as those of o,"
+            + " for each CELL of it that isn't 0, one by one: [COUNT of that] 1 more; [DIRECTORY] n; [COUNT o]"
+            + " 1 less.";
 
     private void sharedTable() {
         says(0, SHARED);
@@ -191,7 +195,8 @@ final class EdgesOfWrites extends Edges {
     }
 
     private void release() {
-        says(0, "TO RELEASE a TABLE: [COUNT] 1 less; if that is 0 then: for each CELL of it that isn't 0, one by one: [COUNT of that] 1 less.");
+        says(0, "TO RELEASE a TABLE: [COUNT] 1 less; if that is 0 then: for each CELL of it that isn't 0, one"
+                + " by one: [COUNT of that] 1 less.");
         for (int many = 0; many <= 4; many++) {
             TornLayers x = snapped(layers(-1));
             fillCells(x, many);
@@ -221,8 +226,10 @@ final class EdgesOfWrites extends Edges {
         is("1 less", z.cluster(2, 0), 2);
     }
 
-    private static final String WRITTEN = "WRITE v at a PLACE of a LAYER: TO OWN THE TABLE; then by the CELL of the BLOCK there: 0: a new CLUSTER m:"
-            + " [COUNT m] 1, [CELLS m] what the four PLACES are, [CELL of the TABLE] m; a DATA (d) with COUNT above 1: a new CLUSTER m:"
+    private static final String WRITTEN = "WRITE v at a PLACE of a LAYER: TO OWN THE TABLE; then by the CELL of"
+            + " the BLOCK there: 0: a new CLUSTER m:"
+            + " [COUNT m] 1, [CELLS m] what the four PLACES are, [CELL of the TABLE] m; a DATA (d) with COUNT"
+            + " above 1: a new CLUSTER m:"
             + " [COUNT m] 1, [CELLS m] as those of d, [CELL of the TABLE] m, [COUNT d] 1 less; then [CELL] v.";
 
     private void writeNewData() {
@@ -306,7 +313,8 @@ final class EdgesOfWrites extends Edges {
         }
     }
 
-    private static final String REVERTED = "REVERT to a SNAPSHOT: for each TABLE of it: [COUNT] 1 more; [DIRECTORY of its LAYER: all]"
+    private static final String REVERTED = "REVERT to a SNAPSHOT: for each TABLE of it: [COUNT] 1 more;"
+            + " [DIRECTORY of its LAYER: all]"
             + " as the SNAPSHOT's; each TABLE that the LAYER had is RELEASED.";
 
     private void revertTables() {
@@ -342,7 +350,8 @@ final class EdgesOfWrites extends Edges {
     }
 
     private void giveUp() {
-        says(0, "GIVE UP a BLOCK of a LAYER (not OWN: nothing is done): TO OWN THE TABLE; [CELL of the TABLE] 0; [COUNT of the DATA] 1 less.");
+        says(0, "GIVE UP a BLOCK of a LAYER (not OWN: nothing is done): TO OWN THE TABLE; [CELL of the TABLE]"
+                + " 0; [COUNT of the DATA] 1 less.");
         TornLayers x = one();
         is("no TABLE", x.giveUp(0, 4), 0);
         is("no CELL", x.giveUp(0, 1), 0);
@@ -363,7 +372,8 @@ final class EdgesOfWrites extends Edges {
         }
     }
 
-    private static final String MERGED = "MERGE a LAYER into its BACKING: each PLACE of its OWN BLOCKS, one by one, is WRITTEN to the BACKING;"
+    private static final String MERGED = "MERGE a LAYER into its BACKING: each PLACE of its OWN BLOCKS, one by"
+            + " one, is WRITTEN to the BACKING;"
             + " [DIRECTORY: all] 0; each TABLE it had is RELEASED.";
 
     private void merge() {
@@ -411,8 +421,10 @@ final class EdgesOfWrites extends Edges {
         is("only OWN ones", y.of(0, 1), 1 << 5);
     }
 
-    private static final String MOVED = "MOVE a LAYER onto another BACKING, safely: each PLACE of each BLOCK that isn't OWN and isn't (all four)"
-            + " the same in the new BACKING (NONE: 0) is WRITTEN to the LAYER as it was; then [BACKING]; unsafely: [BACKING] alone.";
+    private static final String MOVED = "MOVE a LAYER onto another BACKING, safely: each PLACE of each BLOCK"
+            + " that isn't OWN and isn't (all four)"
+            + " the same in the new BACKING (NONE: 0) is WRITTEN to the LAYER as it was; then [BACKING];"
+            + " unsafely: [BACKING] alone.";
 
     private void move() {
         says(0, MOVED);
@@ -469,8 +481,10 @@ final class EdgesOfWrites extends Edges {
         is("the old 0 is kept", z.read(1, 4), 0);
     }
 
-    private static final String FOLDED = "FOLD: for each TABLE that a DIRECTORY (of a LAYER, of a SNAPSHOT that is there) names, by numbers,"
-            + " each once, for each of its CELLS that isn't 0 (d), by places: the least DATA e that such a TABLE names and that has"
+    private static final String FOLDED = "FOLD: for each TABLE that a DIRECTORY (of a LAYER, of a SNAPSHOT that"
+            + " is there) names, by numbers,"
+            + " each once, for each of its CELLS that isn't 0 (d), by places: the least DATA e that such a"
+            + " TABLE names and that has"
             + " all CELLS alike: if e is less than d: [COUNT e] 1 more, [CELL of the TABLE] e, [COUNT d] 1 less.";
 
     private void fold() {
@@ -585,7 +599,8 @@ final class EdgesOfWrites extends Edges {
         is("two CELLS name it", x.cluster(1, 1) * 10 + x.cluster(1, 0), 22);
     }
 
-    private static final String TEAR = "A TEAR of n is set: the next DEED is stopped behind n WRITES (TORN), if it has more;"
+    private static final String TEAR = "A TEAR of n is set: the next DEED is stopped behind n WRITES (TORN), if"
+            + " it has more;"
             + " it is set no more then, either way (a DEED that is refused leaves it).";
 
     private void tear() {
