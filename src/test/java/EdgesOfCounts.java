@@ -256,10 +256,27 @@ final class EdgesOfCounts extends Edges {
         for (int who : none) {
             leaves("who " + who, () -> snapped(one()), x -> x.holds(who), 0);
         }
+        int[] never = {-5, -1, 6, 7, 8, 9, 18, 19, 23, LEAST, LEAST + 4, MOST};
+        for (int who : never) {
+            leaves("all are there, who " + who, EdgesOfCounts::allThere, x -> x.holds(who), 0);
+        }
         TornLayers x = snapped(one());
         x.drop(0);
         is("there no more", x.holds(10), 0);
         is("nothing there", layers(-1).holds(0), 0);
+    }
+
+    /** Six layers and eight snapshots, each with its own, as far as there is room for it. */
+    private static TornLayers allThere() {
+        TornLayers x = layers(-1, -1, -1, -1, -1, -1);
+        for (int s = 0; s < 8; s++) {
+            x.write(s % 6, 0, s);
+            x.snap(s % 6);
+        }
+        for (int l = 0; l < 6; l++) {
+            x.write(l, 0, 99);
+        }
+        return x;
     }
 
     private void alone() {
@@ -300,6 +317,12 @@ final class EdgesOfCounts extends Edges {
         for (int who : none) {
             leaves("who " + who, () -> snapped(one()), x -> x.alone(who), 0);
         }
+        int[] never = {-5, -1, 6, 7, 8, 9, 18, 19, 23, LEAST, LEAST + 4, MOST};
+        for (int who : never) {
+            leaves("all are there, who " + who, EdgesOfCounts::allThere, x -> x.alone(who), 0);
+        }
+        is("but one that is", Long.bitCount(allThere().alone(5)), 2);
+        is("and the last that is", Long.bitCount(allThere().alone(17)), 2);
         is("nothing there", layers(-1, 0).alone(1), 0);
     }
 

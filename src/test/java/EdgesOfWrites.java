@@ -137,14 +137,16 @@ final class EdgesOfWrites extends Edges {
                 + " n] all 0, [DIRECTORY] n.");
         for (int n = 0; n <= 3; n++) {
             TornLayers x = cells(1);
-            x.write(0, 3, 7);
+            x.write(0, 0, 255);
+            x.write(0, 3, 64);
             x.giveUp(0, 0);
-            is("free, but with CELLS of before", x.cluster(2, 2) * 256 + x.cluster(2, 5), 256 + 7);
+            is("free, but with CELLS of before", x.cluster(2, 2) * 256 + x.cluster(2, 5), 255 * 256 + 64);
             torn(x, n);
             is("torn behind " + n, x.write(0, 16, 9), TORN);
             is("[COUNT]", x.cluster(2, 0), n >= 1 ? 1 : 0);
-            is("[CELLS] first", x.cluster(2, 2), n >= 2 ? 0 : 1);
-            is("[CELLS] last", x.cluster(2, 5), n >= 2 ? 0 : 7);
+            is("[CELLS] first", x.cluster(2, 2), n >= 2 ? 0 : 255);
+            is("[CELLS] last", x.cluster(2, 5), n >= 2 ? 0 : 64);
+            is("reads as before", x.read(0, 16), 0);
             is("[DIRECTORY]", x.holds(0), n >= 3 ? set(1, 2) : set(1));
             is("a LEAK till then", x.all(0), n == 1 || n == 2 ? set(2) : 0);
         }
