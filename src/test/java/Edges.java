@@ -33,9 +33,9 @@ abstract class Edges {
 
     abstract void all();
 
-    /** From here on it is this sentence that is tested; 0 stands for the Terms. */
+    /** From here on it is this sentence that is tested; 0 stands for the Terms, 38 for What it is. */
     final void says(int promise, String words) {
-        sentence = (promise == 0 ? "Terms" : "promise " + promise) + " \"" + words + "\"";
+        sentence = Doc.title(promise) + " \"" + words + "\"";
         due.is(sentence + " stands in the document", doc.name(promise, words) ? 1 : 0, 1);
     }
 

@@ -6,7 +6,6 @@ final class EdgesOfTerms extends Edges {
 
     @Override
     void all() {
-        mostCalls();
         refusals();
         badAheadOfAll();
         stateAheadOfFull();
@@ -31,17 +30,6 @@ final class EdgesOfTerms extends Edges {
         full();
         howManyWrites();
         inThought();
-    }
-
-    private void mostCalls() {
-        says(0, "An object is used for at most 512 calls after it has been made; what later calls answer is free.");
-        TornLayers x = new TornLayers();
-        is("call 1", x.layer(-1), 0);
-        for (int call = 2; call < 511; call++) {
-            x.write(0, call % 64, call % 256);
-        }
-        is("call 511", x.read(0, 510 % 64), 510 % 256);
-        is("call 512", x.count(5), 509 + 20 * 3);
     }
 
     private void refusals() {
